@@ -310,6 +310,17 @@ public final class PlayedWritten {
         return best;
     }
 
+    /** Closes the gap that STROKE k leaves, and answers how many there are then. */
+    private static int takeOut(int[] times, int many, int k) {
+        if (k < 0 || k >= many) {
+            return many;
+        }
+        for (int i = k + 1; i < many; i++) {
+            times[i - 1] = times[i];
+        }
+        return many - 1;
+    }
+
     private static int partCount(int kind) {
         return kind == THIRDS ? 3 : 2;
     }
@@ -358,13 +369,7 @@ public final class PlayedWritten {
         }
 
         void remove(int k) {
-            if (k < 0 || k >= many) {
-                return;
-            }
-            for (int i = k + 1; i < many; i++) {
-                times[i - 1] = times[i];
-            }
-            many--;
+            many = takeOut(times, many, k);
         }
 
         int draw(int seed, int n) {
@@ -428,6 +433,9 @@ public final class PlayedWritten {
         }
 
         void restore(Score score) {
+            if (size == 0) {
+                return;
+            }
             next = (next + MOST_STATES - 1) % MOST_STATES;
             size--;
             score.loadFrom(rows, next * Score.ROW);
@@ -603,10 +611,7 @@ public final class PlayedWritten {
         }
 
         void leaveOut(int k) {
-            for (int i = k + 1; i < many; i++) {
-                times[i - 1] = times[i];
-            }
-            many--;
+            many = takeOut(times, many, k);
             priceGraces();
         }
 
@@ -890,8 +895,9 @@ public final class PlayedWritten {
     }
 
     /**
-     * The least cost over all BARS, found from the last BAR to the first. How much longer a BAR is
-     * is told in BENDS (-1, 0, 1), where it begins by the BENDS of all BARS ahead (its lean).
+     * The least cost over all BARS, found from the last BAR to the first. A BAR's ticks are told by
+     * its bends (-1, 0 or 1 BEND more than LENGTH), where it begins by the bends of all BARS ahead
+     * together (its lean).
      */
     private static final class Search {
         private static final int LEANS = 2 * (MOST_BARS - 1) + 1;
@@ -899,7 +905,7 @@ public final class PlayedWritten {
 
         private final Tables tables = new Tables();
         final Task task = tables.task;
-        // For a BAR, its lean, its BENDS, its first STROKE: the least cost of it and all behind it.
+        // For a BAR, its lean, its bends, its first STROKE: the least cost of it and all behind it.
         private final int[] onward = new int[MOST_BARS * LEANS * BENDS * Tables.SIDE];
         private final int[] behind = new int[Tables.SIDE];
 
@@ -972,7 +978,7 @@ public final class PlayedWritten {
             return ((b * LEANS + lean + MOST_BARS - 1) * BENDS + bends + 1) * Tables.SIDE;
         }
 
-        /** The least cost of BAR b and all behind it, if the BAR ahead has so many BENDS. */
+        /** The least cost of BAR b and all behind it, if the BAR ahead has these bends. */
         private int leastFrom(int b, int lean, int before, int first) {
             if (b >= task.bars) {
                 return first == task.many ? 0 : UNREACHABLE;
