@@ -281,10 +281,13 @@ public final class TermsEdgesTest {
         for (int price : prices) {
             PlayedWritten x = made(at(0, 108), 1, 216, 0, 1, price, 99, 99, 99);
             Check.due("HALVES " + price, x.cost(), 216 * price);
+            Check.bars("HALVES " + price, x, "[11]");
             x = made(at(0, 144), 1, 216, 0, 1, 99, price, 99, 99);
             Check.due("SWING " + price, x.cost(), 216 * price);
+            Check.bars("SWING " + price, x, "<11>");
             x = made(at(0, 72), 1, 216, 0, 1, 99, 99, price, 99);
-            Check.due("THIRDS " + price, x.cost(), 216 * Math.min(price, 72 + 99));
+            Check.due("THIRDS " + price, x.cost(), 216 * price);
+            Check.bars("THIRDS " + price, x, "{11-}");
             x = made(at(0, 7, 14), 1, 216, 0, 0, 99, 99, 99, price);
             Check.due("GRACE " + price, x.cost(), 216 * (21 + 2 * price));
         }
@@ -387,6 +390,8 @@ public final class TermsEdgesTest {
 
     private static void state(String when, PlayedWritten x, long before, int states) {
         Check.due(when + " leaves one", x.told(15), states + 1);
+        // The writing is asked for ahead of back(), so that an old one would show behind it.
+        x.cost();
         Check.due(when + ", back()", x.back(), states);
         Check.due(when + ", all as before", x.digest(), before);
     }

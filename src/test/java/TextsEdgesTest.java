@@ -248,6 +248,20 @@ public final class TextsEdgesTest {
             Check.due("no STATE more", x.back(), 4);
             Check.due("CHORD back", x.told(13), 6);
         }
+        // Nothing is left of it for the next reading either.
+        PlayedWritten x = typed("3[2{1");
+        Check.still(x, -15, "a FAULT", x::plays);
+        Check.still(x, -15, "the same again", x::plays);
+        x.clear();
+        Check.types(x, "[11]");
+        Check.due("another TEXT", x.plays(), 2);
+        Check.due("BARS", x.told(4), 1);
+        Check.times("another TEXT", x, 0, 108);
+        x.clear();
+        Check.types(x, "[8");
+        x.plays();
+        Check.types(x, "-]");
+        Check.due("the same TEXT, longer", x.plays(), 8);
     }
 
     private static void typeBytes() {

@@ -249,6 +249,22 @@ public final class WritingEdgesTest {
         fact("LEVEL 1", free(3, 108), 5, 1);
         fact("LEVEL 2", free(3, 54), 5, 2);
         fact("LEVEL 3", free(3, 27), 5, 3);
+        fact("<1<1<11>>>", played("<1<1<11>>>"), 5, 1, 2, 3, 3);
+        fact("<<<11>1>1>", played("<<<11>1>1>"), 5, 3, 3, 2, 1);
+        fact("{{{111}11}11}", played("{{{111}11}11}"), 5, 3, 3, 3, 2, 2, 1, 1);
+        fact("{11{11{111}}}", played("{11{11{111}}}"), 5, 1, 1, 2, 2, 3, 3, 3);
+        fact("[1[1[11]]]", played("[1[1[11]]]"), 5, 1, 2, 3, 3);
+    }
+
+    /** What a TEXT tells, where its own divisions are the cheapest ones that have no ERROR. */
+    private static PlayedWritten played(String text) {
+        PlayedWritten x = new PlayedWritten();
+        int own = "[<{".indexOf(text.charAt(0));
+        Check.set(x, 1, 216, 0, 3, own == 0 ? 1 : 99, own == 1 ? 1 : 99, own == 2 ? 1 : 99, 99, 2, 0);
+        Check.types(x, text);
+        x.plays();
+        Check.bars(text, x, text);
+        return x;
     }
 
     private static void writtenBad() {
@@ -341,6 +357,13 @@ public final class WritingEdgesTest {
         x.sets(2, 24);
         x.sets(8, 0);
         counts("the greatest change: 24, then 48", x, 0, 0, 0, 0, 1, 72, 1);
+        // Each number is that of the writing as it is now, and begins at nothing again.
+        PlayedWritten y = Check.with(0, 7, 54, 110, 216, 300);
+        counts("six", y, 2, 0, 1, 1, 3, 0, 5);
+        y.draws(0, 0);
+        counts("none now", y, 0, 0, 0, 0, 0, 0, 0);
+        y.back();
+        counts("six again", y, 2, 0, 1, 1, 3, 0, 5);
     }
 
     private static void countBad() {
